@@ -148,11 +148,28 @@ public final class ImagesTest {
         x.keep(0, 1);
         x.restore();
         Due.is("one of PEOPLE again", x.person(3, 3, 33), 1);
+        pairsAfterRestore();
         Due.is("a THING again", x.thing(0, 6), 0);
         Due.is("its WORTH is 0 again", x.worth(0, 0, 1), 0);
         Due.is("and to the other", x.worth(1, 0, 1), 0);
         Due.is("it is not KEPT", x.thingIs(0, 3), 0);
         Due.is("it is SOUND", x.thingIs(0, 2), 100);
+    }
+
+    private static void pairsAfterRestore() {
+        NamedPrices x = new NamedPrices();
+        x.person(1, 1, 11);
+        x.thing(0, 1);
+        x.thing(0, 1);
+        x.thing(0, 1);
+        x.image();
+        x.pair(0, 1, 7);
+        x.restore();
+        Due.is("a PAIR again", x.pair(1, 2, 9), 0);
+        int[] due = {1, 2, 9, 0};
+        for (int what = 0; what <= 3; what++) {
+            Due.is("pairIs(0, " + what + ")", x.pairIs(0, what), due[what]);
+        }
     }
 
     private static void tell() {

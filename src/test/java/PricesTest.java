@@ -6,6 +6,7 @@ public final class PricesTest {
         gain();
         best();
         bestOfAll();
+        twoOwners();
         right();
         rightOfAll();
         Due.end();
@@ -163,6 +164,21 @@ public final class PricesTest {
         return best;
     }
 
+    private static void twoOwners() {
+        NamedPrices x = town();
+        x.thing(2, 10);
+        x.worth(0, 1, 60);
+        x.worth(1, 1, 60);
+        x.worth(3, 1, 60);
+        for (int i = 0; i < 2; i++) {
+            fraction("taken(0, ", x, 49, 2, 3);
+            Due.is("0 surely comes: taken(1, 50, 0)", x.taken(1, 50, 0), 1);
+            Due.is("0 surely comes: taken(1, 50, 1)", x.taken(1, 50, 1), 1);
+            Due.is("best(1)", x.best(1), 59);
+            Due.is("best(0)", x.best(0), 79);
+        }
+    }
+
     private static void right() {
         NamedPrices x = new NamedPrices();
         x.person(0, 0, 11);
@@ -182,6 +198,18 @@ public final class PricesTest {
         Due.is("right(0): 0 is its worth", x.right(0), 25);
         Due.is("right: the PART is as it was", x.rule(0, 5), 5);
         Due.is("right: told(2)", x.told(2), 1);
+        NamedPrices y = new NamedPrices();
+        y.person(0, 0, 11);
+        y.person(0, 0, 89);
+        y.person(0, 0, 89);
+        y.thing(0, 0);
+        y.worth(1, 0, 50);
+        y.worth(2, 0, 50);
+        // 80 of 81 are more than 98 hundredths, but not more than 99.
+        Due.is("the last PART", y.right(0), 99);
+        y.person(0, 0, 89);
+        y.worth(3, 0, 50);
+        Due.is("not even the last PART", y.right(0), Due.NONE);
     }
 
     private static void rightOfAll() {

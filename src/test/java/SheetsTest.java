@@ -220,6 +220,8 @@ public final class SheetsTest {
         x.sheet(1, 8, 2);
         x.move(0, 0, 1, 0, 2);
         Due.is("one without a number", x.judge(1), 2);
+        x.worth(0, 2, 0);
+        Due.is("one without a number that is NAMED 0", x.judge(1), 2);
         Due.is("nobody's book", new NamedPrices().judge(0), Due.NONE);
         NamedPrices y = new NamedPrices();
         y.sheet(0, 8, 3);

@@ -3,7 +3,9 @@ public final class TextsTest {
     public static void main(String[] args) {
         feed();
         faults();
+        oneBehindAnother();
         worked();
+        nobodyElse();
         mendingNames();
         text();
         untell();
@@ -66,6 +68,9 @@ public final class TextsTest {
         for (String text : new String[] {"v", "s", "c", "u", "r", "v*s<c+u-r"}) {
             fault(1, text, -1);
         }
+        fault(0, "!v+!!!!!!v", 8);
+        fault(0, "v+v*v+v<v&!!!!!!v", 15);
+        fault(0, "(v)+((((((v))))))", 9);
         fault(1, "m", 0);
         fault(1, "v+p", 2);
         fault(1, "v+y", 2);
@@ -108,6 +113,32 @@ public final class TextsTest {
 
     private static int held(int v) {
         return Math.max(0, Math.min(9999, v));
+    }
+
+    /** What a TEXT with a FAULT left open isn't open in the next. */
+    private static void oneBehindAnother() {
+        NamedPrices x = new NamedPrices();
+        String[] texts = {"(((((", "v", "!!!!!", "!!!!!v", "1+(2*3", "(((((v)))))", "12", "34",
+            "v<", "v<v", "(v", "v)"};
+        int[] due = {-15, 1, -15, 1, -16, 1, 1, 1, -12, 1, -12, -11};
+        for (int i = 0; i < texts.length; i++) {
+            Due.feed(x, texts[i]);
+            Due.is("text(0) of " + texts[i], x.text(0), due[i]);
+        }
+    }
+
+    private static void nobodyElse() {
+        NamedPrices x = new NamedPrices();
+        x.person(5, 0, 11);
+        x.thing(0, 40);
+        x.worth(0, 0, 90);
+        Due.feed(x, "m");
+        x.text(0);
+        Due.is("m is 0 without others", x.named(0), 0);
+        x.person(0, 0, 11);
+        Due.is("m is 0 of what is worth nothing", x.named(0), 0);
+        x.worth(1, 0, 3);
+        Due.is("m is not the OWNER's", x.named(0), 3);
     }
 
     private static void mendingNames() {

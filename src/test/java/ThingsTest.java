@@ -172,6 +172,7 @@ public final class ThingsTest {
     private static void brokenPair(int breaks, int due) {
         NamedPrices x = two();
         x.pair(0, 1, 8);
+        x.pair(1, 0, 0);
         x.rule(1, breaks);
         x.rule(4, 999);
         x.become(1, 0);
@@ -180,6 +181,7 @@ public final class ThingsTest {
         Due.is("BREAKS " + breaks + ": thingIs(1, 0)", x.thingIs(1, 0), 0);
         Due.is("BREAKS " + breaks + ": thingIs(1, 2)", x.thingIs(1, 2), 100 - breaks);
         Due.is("BREAKS " + breaks + ": pairIs(0, 3)", x.pairIs(0, 3), due);
+        Due.is("BREAKS " + breaks + ": pairIs(1, 3)", x.pairIs(1, 3), due);
         Due.is("BREAKS " + breaks + ": personIs(0, 5)", x.personIs(0, 5), 0);
         int held = 500 * (100 - breaks) / 100;
         Due.is("BREAKS " + breaks + ": town(0)", x.town(0), held + (due == 0 ? 8 : 0));

@@ -95,6 +95,10 @@ public final class TownTest {
                 Due.is("whose(" + n + ", " + k + ")", x.whose(n, k), y.thingIs(k, 0));
             }
         }
+        x.pair(3, 2, 400);
+        x.pair(1, 2, 500);
+        x.pair(2, 0, 600);
+        Due.is("then(0, 0) with BONUSES", x.then(0, 0), x.town(0));
         Due.is("then: no YEAR went by", x.count(3), 0);
         Due.is("then: no draw was had", x.count(7), 1);
         Due.is("then: nothing moved", x.town(4), 0);

@@ -13,6 +13,7 @@ public final class YearsTest {
         breaking();
         sharing();
         givingToThePoorest();
+        alone();
         seed();
         Due.end();
     }
@@ -100,6 +101,14 @@ public final class YearsTest {
         Due.feed(x, "1");
         x.text(1);
         x.years(5);
+        NamedPrices y = new NamedPrices();
+        y.person(0, 1000, 11);
+        y.thing(0, 5);
+        y.worth(0, 0, 9999);
+        Due.is("a sound one is not mended", y.mended(0), 0);
+        Due.feed(y, "1");
+        y.text(1);
+        Due.is("a sound one is not mended by a TEXT", y.mended(0), 0);
         Due.is("five years of mending: once", x.thingIs(0, 2), 60);
         Due.is("five years of mending: only while there is money", x.personIs(1, 1), 100 - 51);
     }
@@ -314,6 +323,19 @@ public final class YearsTest {
         x.years(1);
         Due.is("PURSES are held", x.personIs(1, 1), 999999);
         Due.is("what is more is lost", x.town(3), 0);
+    }
+
+    private static void alone() {
+        for (int pot = 0; pot <= 2; pot++) {
+            NamedPrices x = new NamedPrices();
+            x.person(0, 100, 1);
+            x.thing(0, 1000);
+            x.rule(0, 3);
+            x.rule(2, pot);
+            x.years(1);
+            Due.is("POT " + pot + ": PURSE of the only one", x.personIs(0, 1), pot == 0 ? 70 : 100);
+            Due.is("POT " + pot + ": THE POT", x.town(3), pot == 0 ? 30 : 0);
+        }
     }
 
     private static void seed() {
