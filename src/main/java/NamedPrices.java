@@ -1445,33 +1445,27 @@ public final class NamedPrices {
             60, 0, 0, 61};
         final Row trace;
         boolean parted;
-        // A voice that is PARTED changes no trace, so a new one is kept apart until it ends.
-        private final Row begun;
         private int kind;
         private int n;
         private int p;
 
         Voices() {
             trace = new Row(MOST_TRACE);
-            begun = new Row(MOST_TRACE);
         }
 
         int speak(People people, int person, int voice, int x) {
-            begun.reset(0);
+            trace.reset(0);
             parted = false;
             kind = people.kinds.at(person);
             n = person;
             p = people.chances.at(person);
-            int answer = say(kind, voice, x, 0);
-            if (!parted) {
-                trace.copy(begun);
-            }
-            return answer;
+            return say(kind, voice, x, 0);
         }
 
         /** The BODY of a KIND, or of the next above that has one. */
         private int say(int from, int voice, int x, int depth) {
-            if (depth > MOST_DEPTH) {
+            // A voice ends where it is PARTED: no BODY begins after that.
+            if (parted || depth > MOST_DEPTH) {
                 return 0;
             }
             int at = from;
@@ -1479,7 +1473,7 @@ public final class NamedPrices {
                 at = Kind.above(at);
             }
             int number = bodyOf(at, voice);
-            begun.add(number);
+            trace.add(number);
             return work(number, Kind.above(at), x, depth + 1);
         }
 

@@ -652,12 +652,12 @@ final class PlainTown {
         PlainFolk.Namer one = s.people.get(person);
         one.trace.clear();
         try {
-            int v = voice == 0 ? one.names(x) : voice == 1 ? one.buys(x)
+            return voice == 0 ? one.names(x) : voice == 1 ? one.buys(x)
                 : voice == 2 ? one.pays(x) : one.minds(x);
-            trace = new ArrayList<>(one.trace.subList(0, Math.min(30, one.trace.size())));
-            return v;
         } catch (PlainFolk.Parted e) {
             return fail(6);
+        } finally {
+            trace = new ArrayList<>(one.trace.subList(0, Math.min(30, one.trace.size())));
         }
     }
 

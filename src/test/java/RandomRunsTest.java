@@ -379,6 +379,12 @@ public final class RandomRunsTest {
                 int voice = some(0, 3);
                 int v = random.nextBoolean() ? some(-9, 99) : random.nextInt();
                 said("voice", x.voice(a, voice, v), y.voice(a, voice, v), a, voice, v);
+                // A TRACE is gone with the next voice, so many are looked at at once.
+                if (random.nextBoolean()) {
+                    said("count", x.count(6), y.count(6), 6);
+                    int i = random.nextInt(x.count(6) + 1);
+                    said("body", x.body(i), y.body(i), i);
+                }
                 break;
             }
             case 31: {

@@ -43,12 +43,16 @@ public final class VoicesTest {
 
     private static void traced(NamedPrices x, int voice, int... due) {
         x.voice(2, voice, 7);
-        Due.is("voice(2, " + voice + ", 7): count(6)", x.count(6), due.length);
+        holds(x, "voice(2, " + voice + ", 7)", due);
+    }
+
+    private static void holds(NamedPrices x, String after, int... due) {
+        Due.is(after + ": count(6)", x.count(6), due.length);
         for (int i = 0; i < due.length; i++) {
-            Due.is("voice(2, " + voice + ", 7): body(" + i + ")", x.body(i), due[i]);
+            Due.is(after + ": body(" + i + ")", x.body(i), due[i]);
         }
-        Due.is("voice(2, " + voice + ", 7): no more", x.body(due.length), Due.NONE);
-        Due.is("voice(2, " + voice + ", 7): body(-1)", x.body(-1), Due.NONE);
+        Due.is(after + ": no more", x.body(due.length), Due.NONE);
+        Due.is(after + ": body(-1)", x.body(-1), Due.NONE);
     }
 
     private static void traces() {
@@ -83,13 +87,21 @@ public final class VoicesTest {
         x.person(3, 0, 29);
         Due.is("voice(0, 0, 7)", x.voice(0, 0, 7), 7);
         Due.is("p 0, n 0: voice(0, 3, 7)", x.voice(0, 3, 7), Due.PARTED);
+        holds(x, "NAMER, PARTED", 13);
         Due.is("p 1, n 1: voice(1, 3, 7)", x.voice(1, 3, 7), Due.PARTED);
+        holds(x, "BEST, PARTED", 61, 21, 13);
+        Due.is("voice(1, 4, 7)", x.voice(1, 4, 7), Due.BEYOND);
+        holds(x, "BEYOND: still the one ahead's", 61, 21, 13);
         Due.is("p 2, n 2: voice(2, 3, 7)", x.voice(2, 3, 7), Due.PARTED);
+        holds(x, "LOW, PARTED", 21, 13);
         Due.is("told(6)", x.told(6), 3);
-        Due.is("an ERROR changes nothing: count(6)", x.count(6), 1);
-        Due.is("an ERROR changes nothing: body(0)", x.body(0), 10);
         Due.is("the other voices still speak", x.voice(2, 2, 7), 11 * 0 + ((2 * (3 + 2 + 5) - 2) ^ 2));
+        holds(x, "no longer PARTED", 41, 12, 11, 40, 20, 10);
         Due.is("told(6)", x.told(6), 3);
+        Due.is("an IMAGE has no TRACE: image()", x.image(), 1);
+        x.voice(1, 3, 7);
+        Due.is("restore()", x.restore(), 0);
+        holds(x, "PARTED, restored", 61, 21, 13);
     }
 
     private static void wraps() {
