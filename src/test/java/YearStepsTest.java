@@ -17,6 +17,8 @@ public final class YearStepsTest {
         purseAndMends();
         mendingText();
         potOfTheSameYear();
+        mendedAheadOfThePot();
+        ownThings();
         poorestOfTheEnd();
         yearsAndMoves();
         Due.end();
@@ -368,6 +370,62 @@ public final class YearStepsTest {
         x.years(2);
         Due.is("nothing is done with it", x.town(3), 75);
         Due.is("the whole PURSE was paid", x.personIs(0, 1), 0);
+    }
+
+    /** What one gets of THE POT mends nothing in that YEAR; what one has mended makes poorer. */
+    private static void mendedAheadOfThePot() {
+        for (int pot = 1; pot <= 2; pot++) {
+            NamedPrices x = sale(0, 9000, 0);
+            x.rule(1, 40);
+            x.rule(4, 30);
+            x.rule(2, pot);
+            x.purse(0, 25);
+            Due.is("years(1)", x.years(1), 1);
+            x.keep(0, 1);
+            x.purse(1, 20);
+            Inside.setPot(x, 20);
+            x.years(1);
+            Due.is("POT " + pot + ": 20 don't mend it", x.thingIs(0, 2), 60);
+            Due.is("POT " + pot + ": they are had then", x.personIs(1, 1), pot == 1 ? 30 : 40);
+            Due.is("POT " + pot + ": the other's", x.personIs(0, 1), pot == 1 ? 35 : 25);
+            x.years(1);
+            Due.is("POT " + pot + ": a YEAR on they do", x.thingIs(0, 2), 70);
+        }
+        NamedPrices x = sale(0, 9000, 0);
+        x.rule(1, 40);
+        x.rule(4, 30);
+        x.rule(2, 2);
+        x.years(1);
+        x.keep(0, 1);
+        x.purse(0, 15);
+        x.purse(1, 40);
+        Inside.setPot(x, 100);
+        x.years(1);
+        Due.is("10 are left of 40: the poorest", x.personIs(1, 1), 110);
+        Due.is("the other's", x.personIs(0, 1), 15);
+    }
+
+    /** What is one's own isn't bought, by a FIRM or in a YEAR, however dear it is to them. */
+    private static void ownThings() {
+        NamedPrices x = new NamedPrices();
+        x.person(0, 500, 11);
+        x.person(0, 500, 9);
+        x.thing(0, 10);
+        x.thing(1, 20);
+        x.thing(0, 30);
+        for (int i = 0; i < 6; i++) {
+            x.worth(i / 3, i % 3, 100);
+        }
+        Due.is("firm(0, 0)", x.firm(0, 0), 1);
+        Due.is("firm(0, 1)", x.firm(0, 1), 80);
+        Due.is("firm(0, 2)", x.firm(0, 2), 2);
+        Due.is("firm(1, 0)", x.firm(1, 0), 2);
+        Due.is("firm(1, 1)", x.firm(1, 1), 160);
+        Due.is("firm(1, 2)", x.firm(1, 2), 5);
+        Due.is("taken(0, 10, 0): the OWNER doesn't come", x.taken(0, 10, 0), 0);
+        Due.is("years(1)", x.years(1), 1);
+        Due.is("all are 0's", x.personIs(0, 3), 3);
+        Due.is("firm(0, 2)", x.firm(0, 2), 0);
     }
 
     /** The poorest is who is so after all that was paid, sold and mended. */
