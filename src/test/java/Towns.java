@@ -1,9 +1,15 @@
 /** Towns for tests that want one with much in it: each call makes a new one, always alike. */
 final class Towns {
-    /** How many numbers wait in full(). */
-    static final int WAITING = 24;
-
     private Towns() {
+    }
+
+    /** What z is after so many draws. */
+    static int drawn(int z, int times) {
+        int now = z;
+        for (int i = 0; i < times; i++) {
+            now = now * 1103515245 + 12345;
+        }
+        return now;
     }
 
     static NamedPrices empty() {
@@ -83,7 +89,7 @@ final class Towns {
             sheet(x, i, i == 0 ? 8 : i == 1 ? 16 : 32, 24);
         }
         Due.feed(x, "!1+1+1+1+1+1+1+1+1+1+1+1+1+1+1+1+1+1+1+1+1+1+1+1+1+1+1+1+1+1");
-        for (int i = 0; i < WAITING; i++) {
+        for (int i = 0; i < 24; i++) {
             x.tell(6 * i);
         }
         x.voice(5, 3, 100);

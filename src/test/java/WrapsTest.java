@@ -180,11 +180,8 @@ public final class WrapsTest {
         }
         x.thing(1, 0);
         x.thing(3, 0);
-        int z = MAX;
-        x.seed(z);
-        for (int i = 0; i < 6; i++) {
-            z = z * 1103515245 + 12345;
-        }
+        x.seed(MAX);
+        int z = Towns.drawn(MAX, 6);
         Due.is("nobody comes: years(1)", x.years(1), 0);
         Due.is("six draws", x.count(7), z);
         Due.is("seed(5): what it was", x.seed(5), z);

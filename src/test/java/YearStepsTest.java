@@ -24,14 +24,6 @@ public final class YearStepsTest {
         Due.end();
     }
 
-    private static int drawn(int z, int times) {
-        int now = z;
-        for (int i = 0; i < times; i++) {
-            now = now * 1103515245 + 12345;
-        }
-        return now;
-    }
-
     /** Number 0 owns a THING for so much; 1 surely comes, has a PURSE and sees a VALUE. */
     private static NamedPrices sale(int price, int value, int purse) {
         NamedPrices x = new NamedPrices();
@@ -107,7 +99,7 @@ public final class YearStepsTest {
             x.thing(owner, 5);
             x.worth(owner, 0, 9999);
             Due.is("OWNER " + owner + " doesn't buy", x.years(1), 0);
-            Due.is("the three others have a draw each", x.count(7), drawn(1, 3));
+            Due.is("the three others have a draw each", x.count(7), Towns.drawn(1, 3));
         }
     }
 
@@ -124,7 +116,7 @@ public final class YearStepsTest {
             }
             Due.is("the first who buys", x.years(1), 1);
             Due.is("OWNER", x.thingIs(0, 0), buyer);
-            Due.is("draws up to " + buyer + "'s", x.count(7), drawn(1, buyer));
+            Due.is("draws up to " + buyer + "'s", x.count(7), Towns.drawn(1, buyer));
             Due.is("the next one's PURSE", x.personIs(4, 1), buyer == 4 ? 94 : 99);
         }
     }

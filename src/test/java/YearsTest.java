@@ -18,14 +18,6 @@ public final class YearsTest {
         Due.end();
     }
 
-    private static int drawn(int z, int times) {
-        int now = z;
-        for (int i = 0; i < times; i++) {
-            now = now * 1103515245 + 12345;
-        }
-        return now;
-    }
-
     private static void named() {
         NamedPrices x = new NamedPrices();
         x.person(0, 0, 11);
@@ -207,18 +199,18 @@ public final class YearsTest {
         Due.is("PURSE is below PRICE; the next has just PRICE", x.thingIs(0, 0), 2);
         Due.is("the buyer's PURSE", x.personIs(2, 1), 0);
         Due.is("the seller's PURSE", x.personIs(0, 1), 100);
-        Due.is("no others are asked: two draws", x.count(7), drawn(1, 2));
+        Due.is("no others are asked: two draws", x.count(7), Towns.drawn(1, 2));
         x.worth(0, 0, 112);
         x.worth(1, 0, 9999);
         x.worth(3, 0, 111);
         x.rule(1, 0);
         Due.is("years(1)", x.years(1), 1);
         Due.is("VALUE is PRICE or below: nobody buys", x.thingIs(0, 0), 2);
-        Due.is("three draws more", x.count(7), drawn(1, 5));
+        Due.is("three draws more", x.count(7), Towns.drawn(1, 5));
         x.keep(0, 1);
         x.worth(3, 0, 9999);
         Due.is("years(1)", x.years(1), 1);
-        Due.is("KEPT: nobody is asked", x.count(7), drawn(1, 5));
+        Due.is("KEPT: nobody is asked", x.count(7), Towns.drawn(1, 5));
         x.keep(0, 0);
         Due.is("years(1)", x.years(1), 2);
         Due.is("not KEPT any more", x.thingIs(0, 0), 3);
@@ -234,11 +226,11 @@ public final class YearsTest {
                 x.worth(1, 0, 500);
                 int z = seed * 123456789;
                 x.seed(z);
-                boolean comes = (drawn(z, 1) >>> 8) % 7 < p;
+                boolean comes = (Towns.drawn(z, 1) >>> 8) % 7 < p;
                 String said = "z " + z + ", COMES " + p + " of 7: ";
                 Due.is(said + "years(1)", x.years(1), comes ? 1 : 0);
                 Due.is(said + "OWNER", x.thingIs(0, 0), comes ? 1 : 0);
-                Due.is(said + "one draw", x.count(7), drawn(z, 1));
+                Due.is(said + "one draw", x.count(7), Towns.drawn(z, 1));
             }
         }
     }
