@@ -30,11 +30,6 @@ public final class EmptyTest {
             }
             Due.is(said + "part(0)", x.part(0), 0);
             Due.is(said + "part(40)", x.part(40), 0);
-            // Nothing is done with what there is.
-            Inside.setPot(x, 77);
-            x.years(1);
-            Due.is(said + "town(3)", x.town(3), 77);
-            Due.is(said + "then(3, 3)", x.then(3, 3), 77);
         }
     }
 

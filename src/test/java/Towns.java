@@ -17,6 +17,21 @@ final class Towns {
     }
 
     /**
+     * So much (up to 9899) comes into THE POT of a town in which nothing moves: as a YEAR goes by,
+     * number 0 pays it for a THING. PART is 0 then, the PURSE of 0 empty.
+     */
+    static void fillPot(NamedPrices x, int pot) {
+        x.thing(0, 9999);
+        x.purse(0, pot);
+        x.rule(0, 99);
+        int was = x.rule(2, 0);
+        x.years(1);
+        Due.is("THE POT is filled", x.town(3), pot);
+        x.rule(0, 0);
+        x.rule(2, was);
+    }
+
+    /**
      * Four of PEOPLE, four THINGS, two PAIRS, both TEXTS, an IMAGE, YEARS gone by; SHEETS of 16
      * and 8 bits, an empty one of 32, one that is missing; bytes on THE TAPE, numbers that wait, a
      * TRACE, and an ERROR of each k but 4.

@@ -369,32 +369,39 @@ public final class YearStepsTest {
         for (int pot = 1; pot <= 2; pot++) {
             NamedPrices x = sale(0, 9000, 0);
             x.rule(1, 40);
-            x.rule(4, 30);
-            x.rule(2, pot);
-            x.purse(0, 25);
             Due.is("years(1)", x.years(1), 1);
             x.keep(0, 1);
-            x.purse(1, 20);
-            Inside.setPot(x, 20);
+            x.price(0, 200);
+            x.rule(0, 10);
+            x.rule(2, pot);
+            x.rule(4, 30);
+            x.purse(0, 50);
+            x.purse(1, 45);
             x.years(1);
-            Due.is("POT " + pot + ": 20 don't mend it", x.thingIs(0, 2), 60);
-            Due.is("POT " + pot + ": they are had then", x.personIs(1, 1), pot == 1 ? 30 : 40);
-            Due.is("POT " + pot + ": the other's", x.personIs(0, 1), pot == 1 ? 35 : 25);
-            x.years(1);
-            Due.is("POT " + pot + ": a YEAR on they do", x.thingIs(0, 2), 70);
+            String said = "20 of 45 paid, POT " + pot + ": ";
+            Due.is(said + "25 don't mend it", x.thingIs(0, 2), 60);
+            Due.is(said + "what is had then", x.personIs(1, 1), pot == 1 ? 35 : 45);
+            Due.is(said + "the other's", x.personIs(0, 1), pot == 1 ? 60 : 50);
         }
         NamedPrices x = sale(0, 9000, 0);
         x.rule(1, 40);
-        x.rule(4, 30);
-        x.rule(2, 2);
         x.years(1);
         x.keep(0, 1);
-        x.purse(0, 15);
-        x.purse(1, 40);
-        Inside.setPot(x, 100);
+        x.price(0, 200);
+        x.rule(0, 10);
+        x.rule(2, 2);
+        x.rule(4, 30);
+        x.purse(0, 29);
+        x.purse(1, 79);
         x.years(1);
-        Due.is("10 are left of 40: the poorest", x.personIs(1, 1), 110);
-        Due.is("the other's", x.personIs(0, 1), 15);
+        Due.is("mended", x.thingIs(0, 2), 70);
+        Due.is("20 paid, 30 spent, 29 left, as the other has", x.personIs(0, 1), 49);
+        Due.is("of like ones the least number", x.personIs(1, 1), 29);
+        x.purse(0, 29);
+        x.purse(1, 78);
+        x.years(1);
+        Due.is("20 paid, 30 spent, 28 left: the poorest", x.personIs(1, 1), 48);
+        Due.is("the other's", x.personIs(0, 1), 29);
     }
 
     /** What is one's own isn't bought, by a FIRM or in a YEAR, however dear it is to them. */
